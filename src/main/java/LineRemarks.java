@@ -538,8 +538,8 @@ public final class LineRemarks {
         now.becomeLike(image);
         readySteps();
         for (int s = 0; s < SHELVES; s++) {
-            Shelf shelf = shelves[s];
-            if (shelf.hasRemark() && now.remarkAt(shelf.holding) == null) {
+            Shelf shelf = shelfAt(s);
+            if (shelf != null && shelf.hasRemark() && now.remarkAt(shelf.holding) == null) {
                 shelf.hold(NONE);
             }
         }

@@ -12,6 +12,7 @@ public final class RevisionsTest {
         pairs();
         moves();
         longestFirst();
+        alikeLines();
         throughs();
         origins();
         due.end();
@@ -226,6 +227,33 @@ public final class RevisionsTest {
         x.rule(0, 1);
         places(x, 0, 1, 6, 9, 10, 11, 0, 1, 2, 3, 4, 5);
         due.due("moved", x.matched(0, 1, 1), 4);
+    }
+
+    private static void alikeLines() {
+        LineRemarks x = new LineRemarks();
+        Checks.revise(x, "a/a/a", -1);
+        Checks.revise(x, "a/a", -1);
+        places(x, 0, 1, 0, 1, -1);
+        places(x, 1, 0, 0, 1);
+        Checks.revise(x, "a/b/a", -1);
+        // L(2, 1) is L(1, 2): the second a of A is passed by, the third is the PAIR.
+        places(x, 0, 2, 0, -1, 2);
+        // Alike by all their letters alone.
+        Checks.revise(x, "ab/abcdefgh/ba", -1);
+        Checks.revise(x, "abc/abcdefgz/a/b", -1);
+        places(x, 3, 4, -1, -1, -1);
+        // 24 LINES each, the first half behind the other: 12 PAIRS, 12 MOVED.
+        String half = "a/b/c/d/e/f/g/h/i/j/k/l";
+        String other = "m/n/o/p/q/r/s/t/u/v/w/x";
+        Checks.revise(x, half + "/" + other, -1);
+        Checks.revise(x, other + "/" + half, 5);
+        for (int i = 0; i < 24; i++) {
+            due.due("place(5, 6, " + i + ")", x.place(5, 6, i), (i + 12) % 24);
+            due.due("through(5, 6, " + i + ")", x.through(5, 6, i), (i + 12) % 24);
+            due.due("origin(6, " + i + ")", x.origin(6, i, 1), (i + 12) % 24);
+        }
+        due.due("pairs", x.matched(5, 6, 0), 12);
+        due.due("moved", x.matched(5, 6, 1), 12);
     }
 
     private static void throughs() {
