@@ -1,12 +1,14 @@
 import java.util.ArrayList;
 import java.util.List;
 
-/** The least and the greatest of what comes of REMARKS: ORDER, HEAT, WALKS, MADE AGAIN, DRIFT, MOVES, THE IMAGE, status. */
+/**
+ * The least and the greatest of what comes of REMARKS: ORDER, HEAT, WALKS, MADE AGAIN, DRIFT, MOVES,
+ * THE IMAGE, status.
+ */
 public final class OutcomeLimitsTest {
     private static final Checks due = new Checks("OutcomeLimitsTest");
     private static final int LEAST = Integer.MIN_VALUE;
     private static final int MOST = Integer.MAX_VALUE;
-    private static final String ALL = "a/b/c/d/e/f/g/h/i/j/k/l/m/n/o/p/q/r/s/t/u/v/w/x";
 
     public static void main(String[] args) {
         newObject();
@@ -51,15 +53,6 @@ public final class OutcomeLimitsTest {
         due.end();
     }
 
-    private static LineRemarks chain(String... texts) {
-        LineRemarks x = new LineRemarks();
-        x.rule(1, 99);
-        for (int r = 0; r < texts.length; r++) {
-            due.due("revise", Checks.revise(x, texts[r], r - 1), r);
-        }
-        return x;
-    }
-
     /** "No REVISIONS, no REMARKS"; SHELVES hold NOTHING, RUN 2, NEED 6, MARGIN 1, SEED 1 at first. */
     private static void newObject() {
         LineRemarks x = new LineRemarks();
@@ -87,7 +80,7 @@ public final class OutcomeLimitsTest {
     }
 
     private static void orderOfNone() {
-        LineRemarks x = chain("a", "b", "");
+        LineRemarks x = Scenes.chain("a", "b", "");
         for (int t = 0; t < 3; t++) {
             due.due("no REMARK on " + t, x.inOrder(t, 0), -1);
         }
@@ -100,9 +93,9 @@ public final class OutcomeLimitsTest {
 
     /** "by p, the least first, of several by numbers": 16 of them. */
     private static void orderOfSixteen() {
-        LineRemarks x = chain(ALL);
-        LineRemarks y = chain(ALL);
-        LineRemarks z = chain(ALL);
+        LineRemarks x = Scenes.chain(Scenes.ALL);
+        LineRemarks y = Scenes.chain(Scenes.ALL);
+        LineRemarks z = Scenes.chain(Scenes.ALL);
         for (int m = 0; m < 16; m++) {
             x.remark(0, 0, 0, 23 - m, 23, -1);
             y.remark(0, 0, 0, 23, 23, -1);
@@ -120,7 +113,7 @@ public final class OutcomeLimitsTest {
     }
 
     private static void whoOfNone() {
-        LineRemarks x = chain("a/b", "k", "");
+        LineRemarks x = Scenes.chain("a/b", "k", "");
         for (int t = 0; t < 3; t++) {
             due.due("none there", x.who(t, 0) + x.who(t, 1), 0);
             due.due("HEAT", x.who(t, 2), 99);
@@ -133,7 +126,7 @@ public final class OutcomeLimitsTest {
             due.due("HEAT of LOST ones", x.who(t, 2), 99);
             due.due("COVERED by LOST ones", x.covered(t), 0);
         }
-        LineRemarks y = chain("a", "a");
+        LineRemarks y = Scenes.chain("a", "a");
         y.remark(0, 0, 1, 0, 0, -1);
         due.due("not PUT ahead of where it is made", y.who(0, 0) + y.who(0, 1), 0);
         due.due("HEAT", y.who(0, 2), 99);
@@ -141,7 +134,7 @@ public final class OutcomeLimitsTest {
     }
 
     private static void whoOfSixteen() {
-        LineRemarks x = chain("a/b", "b", "");
+        LineRemarks x = Scenes.chain("a/b", "b", "");
         for (int m = 0; m < 16; m++) {
             x.remark(0, 0, 0, m % 2, m % 2, -1);
         }
@@ -161,7 +154,7 @@ public final class OutcomeLimitsTest {
 
     /** What was told of another t, or ahead of a change, isn't told again. */
     private static void whoOfEachAnew() {
-        LineRemarks x = chain("a/b", "b", "");
+        LineRemarks x = Scenes.chain("a/b", "b", "");
         x.remark(0, 0, 0, 0, 0, -1);
         x.remark(0, 0, 0, 1, 1, -1);
         int[] found = {3, 2, 0};
@@ -185,7 +178,7 @@ public final class OutcomeLimitsTest {
 
     /** HEAT: "the LINE of t in most such SPANS, of several the first": LINE 0, LINE 23, between. */
     private static void heatEnds() {
-        LineRemarks x = chain(ALL);
+        LineRemarks x = Scenes.chain(Scenes.ALL);
         x.remark(0, 0, 0, 23, 23, -1);
         due.due("the last LINE", x.who(0, 2), 23);
         x.remark(0, 0, 0, 10, 12, -1);
@@ -203,7 +196,7 @@ public final class OutcomeLimitsTest {
     }
 
     private static void coveredEnds() {
-        LineRemarks x = chain(ALL);
+        LineRemarks x = Scenes.chain(Scenes.ALL);
         x.remark(0, 0, 0, 0, 0, -1);
         due.due("LINE 0", x.covered(0), 1);
         x.remark(0, 0, 0, 23, 23, -1);
@@ -216,7 +209,7 @@ public final class OutcomeLimitsTest {
 
     /** A WALK on the REVISION on which it is made alone. */
     private static void walkOfOne() {
-        LineRemarks x = chain(ALL);
+        LineRemarks x = Scenes.chain(Scenes.ALL);
         x.remark(0, 0, 0, 23, 23, -1);
         for (int told : new int[] {LEAST, -1, 0, 22, 23, 24, MOST}) {
             Checks.tell(x, 0, 2, told);
@@ -234,7 +227,7 @@ public final class OutcomeLimitsTest {
             texts[r] = "k/".repeat(r) + "a";
             places[r] = r;
         }
-        LineRemarks x = chain(texts);
+        LineRemarks x = Scenes.chain(texts);
         x.remark(1, 0, 0, 0, 0, -1);
         Checks.tell(x, 0, 0, places);
         for (int t = 0; t < 16; t++) {
@@ -260,7 +253,7 @@ public final class OutcomeLimitsTest {
 
     /** "(NONE: LOST)": -1 alone is so where it is LOST, and never where it isn't. */
     private static void walkWithLost() {
-        LineRemarks x = chain("a", "k", "");
+        LineRemarks x = Scenes.chain("a", "k", "");
         x.remark(0, 0, 0, 0, 0, -1);
         int[] told = {-1, -2, 0, 1, 255};
         for (int second : told) {
@@ -281,7 +274,7 @@ public final class OutcomeLimitsTest {
 
     /** "from the one on which it is made to t": the REVISIONS ahead of that aren't told. */
     private static void walkFromWhereItIsMade() {
-        LineRemarks x = chain("a", "k/a", "a", "k/k/a");
+        LineRemarks x = Scenes.chain("a", "k/a", "a", "k/k/a");
         x.remark(0, 0, 1, 1, 1, -1);
         x.remark(0, 0, 2, 0, 0, -1);
         Checks.tell(x, 0, 0, 1, 0, 2);
@@ -301,7 +294,7 @@ public final class OutcomeLimitsTest {
 
     /** A WALK that FOLLOWS, is LOST and COMES BACK by the CONTEXT of its latest SPAN. */
     private static void walkThatComesBack() {
-        LineRemarks x = chain("x/a/y", "k/k/a/l", "", "x/a/y/k/a/l", "k/a/l");
+        LineRemarks x = Scenes.chain("x/a/y", "k/k/a/l", "", "x/a/y/k/a/l", "k/a/l");
         x.remark(0, 0, 0, 1, 1, -1);
         x.rule(1, 7);
         Checks.tell(x, 0, 0, 1, 2, -1, 4, 1);
@@ -321,7 +314,7 @@ public final class OutcomeLimitsTest {
 
     /** A ROW of 160 told: what is behind the REVISIONS isn't looked at. */
     private static void longWalk() {
-        LineRemarks x = chain("a", "a");
+        LineRemarks x = Scenes.chain("a", "a");
         x.remark(0, 0, 0, 0, 0, -1);
         x.row(0, 2, 160);
         due.due("all 0", x.judge(0, 0, 1), -1);
@@ -335,7 +328,7 @@ public final class OutcomeLimitsTest {
 
     /** MADE AGAIN with no REMARK on it, or with SETTLED ones alone: a REVISION, and 0. */
     private static void againNone() {
-        LineRemarks x = chain("a/b", "b", "");
+        LineRemarks x = Scenes.chain("a/b", "b", "");
         x.remark(0, 0, 0, 0, 0, -1);
         x.remark(0, 0, 1, 0, 0, -1);
         x.settle(1, true);
@@ -347,15 +340,15 @@ public final class OutcomeLimitsTest {
         due.due("its LINES", x.lines(4), 0);
         due.due("FORMER", x.former(4), 3);
         due.same("LINES", Checks.text(x, 3), "b");
-        LineRemarks y = chain(ALL, "a");
-        Checks.revise(y, ALL, -1);
+        LineRemarks y = Scenes.chain(Scenes.ALL, "a");
+        Checks.revise(y, Scenes.ALL, -1);
         due.due("24 LINES", y.again(2, 1), 0);
-        due.same("LINES", Checks.text(y, 3), ALL);
+        due.same("LINES", Checks.text(y, 3), Scenes.ALL);
     }
 
     /** 8 REMARKS and 8 more are 16, the 16th REVISION is made. */
     private static void againFills() {
-        LineRemarks x = chain("a", "b");
+        LineRemarks x = Scenes.chain("a", "b");
         for (int r = 2; r < 15; r++) {
             Checks.revise(x, "c", 0);
         }
@@ -377,7 +370,7 @@ public final class OutcomeLimitsTest {
 
     /** One more than there may be, of either: "(nothing is made then)". */
     private static void againOverfills() {
-        LineRemarks x = chain("a", "b", "c");
+        LineRemarks x = Scenes.chain("a", "b", "c");
         for (int m = 0; m < 9; m++) {
             x.remark(0, 0, 1, 0, 0, -1);
         }
@@ -393,7 +386,7 @@ public final class OutcomeLimitsTest {
         due.due("16 REMARKS, but none to make", x.again(2, 0), 0);
         due.due("that is made", x.status(0), 5);
         due.due("counted", x.status(17), 2);
-        LineRemarks y = chain("a", "b");
+        LineRemarks y = Scenes.chain("a", "b");
         y.remark(0, 0, 1, 0, 0, -1);
         y.drift(14);
         due.due("a 17th REVISION", y.again(1, 0), -7);
@@ -402,7 +395,7 @@ public final class OutcomeLimitsTest {
 
     /** "r is in the CHAIN of b" alone is refused: beside, behind and its own FORMER are taken. */
     private static void againWithFormers() {
-        LineRemarks x = chain("a", "b", "c");
+        LineRemarks x = Scenes.chain("a", "b", "c");
         Checks.revise(x, "d", 0);
         Checks.revise(x, "e", -1);
         int[][] wrong = {{0, 0}, {1, 1}, {0, 1}, {0, 2}, {1, 2}, {0, 3}, {4, 4}};
@@ -420,7 +413,7 @@ public final class OutcomeLimitsTest {
 
     /** "each REMARK made on r that isn't SETTLED", "in the order of numbers, under the next numbers". */
     private static void againOfAgain() {
-        LineRemarks x = chain("a/b", "b/c");
+        LineRemarks x = Scenes.chain("a/b", "b/c");
         x.remark(0, 1, 0, 0, 0, -1);
         x.remark(1, 2, 1, 0, 1, 0);
         x.remark(2, 3, 0, 1, 1, 1);
@@ -444,7 +437,7 @@ public final class OutcomeLimitsTest {
     /** "n (1 to 15)"; "more REVISIONS than may be". */
     private static void driftCounts() {
         for (int n = 1; n <= 15; n++) {
-            LineRemarks x = chain("a/b/c");
+            LineRemarks x = Scenes.chain("a/b/c");
             due.due("drift " + n, x.drift(n), n);
             due.due("REVISIONS", x.status(0), n + 1);
             for (int r = 1; r <= n; r++) {
@@ -456,12 +449,12 @@ public final class OutcomeLimitsTest {
             }
             due.due("none fits", x.drift(1), -7);
         }
-        LineRemarks x = chain("a");
+        LineRemarks x = Scenes.chain("a");
         due.due("0", x.drift(0), -6);
         due.due("16", x.drift(16), -6);
         due.due("SEED stays", x.status(7), 1);
-        LineRemarks y = chain("a");
-        LineRemarks z = chain("a");
+        LineRemarks y = Scenes.chain("a");
+        LineRemarks z = Scenes.chain("a");
         y.drift(15);
         for (int k = 0; k < 15; k++) {
             z.drift(1);
@@ -474,7 +467,7 @@ public final class OutcomeLimitsTest {
 
     /** "a new REVISION with the latest as FORMER": that of the greatest number, wherever it stands. */
     private static void driftOfLatest() {
-        LineRemarks x = chain("a/b", "c/d");
+        LineRemarks x = Scenes.chain("a/b", "c/d");
         Checks.revise(x, "e/f", 0);
         due.due("drift", x.drift(1), 3);
         due.due("FORMER", x.former(3), 2);
@@ -486,27 +479,27 @@ public final class OutcomeLimitsTest {
     /** "of its LINES": not those of a text that wasn't taken, of what was restored, of another REVISION. */
     private static void driftOfItsLines() {
         int goes = seedOf(1, 0);
-        LineRemarks x = chain("aa");
+        LineRemarks x = Scenes.chain("aa");
         Checks.revise(x, "bb/cc/d{", -1);
         x.seed(goes);
         due.due("after a FAULT", x.drift(1), 1);
         due.due("the only LINE goes", x.lines(1), 0);
         int changes = seedOf(3, 0);
-        LineRemarks y = chain("aa");
+        LineRemarks y = Scenes.chain("aa");
         y.image();
         Checks.revise(y, "bb/cc", -1);
         y.restore();
         y.seed(changes);
         due.due("after restore", y.drift(1), 1);
         due.same("the only LINE becomes z", Checks.text(y, 1), "z");
-        LineRemarks z = chain("aa", "bb");
+        LineRemarks z = Scenes.chain("aa", "bb");
         Checks.write(z, 0, 0, "c/d/e");
         due.due("no such FORMER", z.revise(0, 5), -1);
         z.seed(changes);
         due.due("after a text that wasn't read", z.drift(1), 2);
         due.same("the only LINE becomes z", Checks.text(z, 2), "z");
         due.same("the FORMER stays", Checks.text(z, 1), "bb");
-        LineRemarks w = chain("aa/bb");
+        LineRemarks w = Scenes.chain("aa/bb");
         Checks.revise(w, "cc", -1);
         w.again(0, 1);
         w.seed(goes);
@@ -515,12 +508,8 @@ public final class OutcomeLimitsTest {
         due.same("of two that stay", Checks.text(w, 2), "aa/bb");
     }
 
-    private static int next(int seed) {
-        return seed * 1103515245 + 12345;
-    }
-
     private static int drawn(int seed, int n) {
-        return (next(seed) >>> 16) % n;
+        return (Scenes.next(seed) >>> 16) % n;
     }
 
     /** A SEED of which the first DRAW below 4 is what, counted from a start on. */
@@ -546,7 +535,7 @@ public final class OutcomeLimitsTest {
             for (int what = 0; what < 4; what++) {
                 for (int from : new int[] {0, 1000, -1000, MOST - 100, LEAST, 123456789}) {
                     int seed = seedOf(what, from);
-                    LineRemarks x = chain(String.join("/", lines(n)));
+                    LineRemarks x = Scenes.chain(String.join("/", lines(n)));
                     x.seed(seed);
                     x.drift(1);
                     due.same("what " + what + " of " + n, Checks.text(x, 1), String.join("/", drifted(n, what, seed)));
@@ -554,7 +543,7 @@ public final class OutcomeLimitsTest {
                     draws += what == 0 && n < 24 ? 1 : 0;
                     int after = seed;
                     for (int k = 0; k < draws; k++) {
-                        after = next(after);
+                        after = Scenes.next(after);
                     }
                     due.due("SEED after " + draws + " DRAWS", x.status(7), after);
                 }
@@ -564,9 +553,9 @@ public final class OutcomeLimitsTest {
 
     private static List<String> drifted(int n, int what, int seed) {
         List<String> lines = lines(n);
-        int second = next(seed);
+        int second = Scenes.next(seed);
         int at = n == 0 ? 0 : drawn(second, n);
-        int third = n == 0 ? second : next(second);
+        int third = n == 0 ? second : Scenes.next(second);
         if (what == 0 && n < 24) {
             lines.add(at, "" + (char) ('a' + drawn(third, 26)));
         } else if (what == 1 && n > 0) {
@@ -586,13 +575,13 @@ public final class OutcomeLimitsTest {
             if (drawn(seed, 4) != 0) {
                 continue;
             }
-            LineRemarks x = chain("");
+            LineRemarks x = Scenes.chain("");
             x.seed(seed);
             x.drift(1);
             due.due("one LINE", x.lines(1), 1);
             int letter = x.letter(1, 0, 0) - 'a';
             due.due("of one letter", x.letter(1, 0, 1), 0);
-            due.due("letter by " + seed, letter, drawn(next(seed), 26));
+            due.due("letter by " + seed, letter, drawn(Scenes.next(seed), 26));
             seen[letter] = true;
         }
         for (int k = 0; k < 26; k++) {
@@ -603,12 +592,12 @@ public final class OutcomeLimitsTest {
     /** "(an int, wrapping); its upper 16 bits, no sign": SEEDS worked out by hand. */
     private static void drawsWrap() {
         // 1 * 1103515245 + 12345 is 1103527590; its upper 16 bits 16838, below 4: 2.
-        LineRemarks x = chain("a/b");
+        LineRemarks x = Scenes.chain("a/b");
         x.drift(1);
         // That times 1103515245 and 12345 wraps to -1770082073; without a sign 38526, below 2: 0.
         due.same("LINE 0 goes to the front", Checks.text(x, 1), "a/b");
         due.due("SEED", x.status(7), -1770082073);
-        LineRemarks y = chain("");
+        LineRemarks y = Scenes.chain("");
         y.seed(-1);
         // -1103502900: its upper 16 bits without a sign are 48697, below 4: 1. Nothing goes.
         y.drift(1);
@@ -620,17 +609,17 @@ public final class OutcomeLimitsTest {
     private static void drawBounds() {
         int least = 0;
         int most = 0;
-        while (next(least) >>> 16 != 0) {
+        while (Scenes.next(least) >>> 16 != 0) {
             least++;
         }
-        while (next(most) >>> 16 != 65535) {
+        while (Scenes.next(most) >>> 16 != 65535) {
             most++;
         }
-        LineRemarks x = chain("aa");
+        LineRemarks x = Scenes.chain("aa");
         x.seed(most);
         x.drift(1);
         due.same("65535 is 3 by 4", Checks.text(x, 1), "z");
-        LineRemarks y = chain("aa");
+        LineRemarks y = Scenes.chain("aa");
         y.seed(least);
         y.drift(1);
         due.due("0 is 0 by 4: a LINE is put in", y.lines(1), 2);
@@ -652,7 +641,7 @@ public final class OutcomeLimitsTest {
 
     /** "with x (wrapping)": each KIND's MOVES at the ends of the ints, by what Java's own ints do. */
     private static void actsWrap() {
-        LineRemarks x = chain("a");
+        LineRemarks x = Scenes.chain("a");
         for (int kind = 0; kind < 7; kind++) {
             x.remark(kind, 9, 0, 0, 0, -1);
         }
@@ -663,7 +652,7 @@ public final class OutcomeLimitsTest {
                 due.due("clings of " + m + " with " + v, x.act(m, 2, v), clings(m, v));
             }
         }
-        LineRemarks y = chain("a");
+        LineRemarks y = Scenes.chain("a");
         y.remark(4, 0, 0, 0, 0, -1);
         // weighs(LEAST) is 0, points(LEAST) LEAST: clings is - LEAST, which is LEAST.
         due.due("minus the least is the least", y.act(0, 2, LEAST), LEAST);
@@ -695,7 +684,7 @@ public final class OutcomeLimitsTest {
 
     /** "0, and no TRACE then: no such one, move": of each KIND. */
     private static void noSuchMove() {
-        LineRemarks x = chain("a");
+        LineRemarks x = Scenes.chain("a");
         for (int kind = 0; kind < 7; kind++) {
             x.remark(kind, 3, 0, 0, 0, -1);
             for (int move : new int[] {LEAST, -3, -2, -1, 3, 4, 5, 6, MOST}) {
@@ -713,7 +702,7 @@ public final class OutcomeLimitsTest {
 
     /** The most bodies that a MOVE runs are 11; what is behind is NONE, and all are counted. */
     private static void longestTrace() {
-        LineRemarks x = chain("a");
+        LineRemarks x = Scenes.chain("a");
         x.remark(6, 0, 0, 0, 0, -1);
         x.act(0, 2, 0);
         int[] bodies = {12, 71, 11, 70, 40, 20, 10, 70, 40, 20, 10};
@@ -728,7 +717,7 @@ public final class OutcomeLimitsTest {
 
     /** "in the latest act()": a shorter one leaves nothing of a longer one. */
     private static void traceOfLatest() {
-        LineRemarks x = chain("a");
+        LineRemarks x = Scenes.chain("a");
         x.remark(6, 0, 0, 0, 0, -1);
         x.remark(0, 0, 0, 0, 0, -1);
         due.due("none yet", x.trace(0), -1);
@@ -796,7 +785,7 @@ public final class OutcomeLimitsTest {
 
     /** "is taken": the latest one counts, and restoring takes nothing from it. */
     private static void imageOfLatest() {
-        LineRemarks x = chain("a");
+        LineRemarks x = Scenes.chain("a");
         due.due("image", x.image(), 0);
         x.remark(0, 0, 0, 0, 0, -1);
         x.seed(5);
@@ -816,7 +805,7 @@ public final class OutcomeLimitsTest {
 
     /** "(and THE IMAGE, REFUSALS, the FAULT, THE TRACE)", ROWS in SHELVES: these stay as they are. */
     private static void restoreLeaves() {
-        LineRemarks x = chain("a");
+        LineRemarks x = Scenes.chain("a");
         x.remark(6, 0, 0, 0, 0, -1);
         Checks.tell(x, 0, 3, 4, 5);
         x.row(1, 1, 0);
@@ -841,7 +830,7 @@ public final class OutcomeLimitsTest {
 
     /** "SHELVES with REMARKS hold those of these numbers, or NOTHING". */
     private static void restoreShelves() {
-        LineRemarks x = chain("a/b");
+        LineRemarks x = Scenes.chain("a/b");
         x.remark(0, 1, 0, 0, 0, -1);
         x.remark(1, 2, 0, 1, 1, -1);
         due.due("image", x.image(), 2);
@@ -858,14 +847,14 @@ public final class OutcomeLimitsTest {
                 due.due("says", x.says(s, 0), (s + from) % 3 == 2 ? -3 : (s + from) % 3);
             }
         }
-        LineRemarks y = chain("a/b");
+        LineRemarks y = Scenes.chain("a/b");
         y.image();
         y.remark(1, 7, 0, 0, 0, -1);
         y.show(0, 0);
         y.restore();
         y.remark(2, 8, 0, 0, 1, -1);
         due.due("NOTHING, though that number is there again", y.holds(0), -1);
-        LineRemarks z = chain("a/b");
+        LineRemarks z = Scenes.chain("a/b");
         z.image();
         z.remark(1, 7, 0, 1, 1, -1);
         z.image();
@@ -877,7 +866,7 @@ public final class OutcomeLimitsTest {
 
     /** Numbers that were used up are there again. */
     private static void restoreGivesRoom() {
-        LineRemarks x = chain("a", "b");
+        LineRemarks x = Scenes.chain("a", "b");
         x.remark(0, 0, 0, 0, 0, -1);
         x.image();
         for (int times = 0; times < 3; times++) {
@@ -896,14 +885,14 @@ public final class OutcomeLimitsTest {
 
     /** 0 to 9 and 11 to 17; "NONE for another what". */
     private static void statusBounds() {
-        LineRemarks x = chain("a/b", "c");
+        LineRemarks x = Scenes.chain("a/b", "c");
         for (int what : new int[] {LEAST, -17, -11, -1, 10, 18, 19, 100, MOST}) {
             due.due("status " + what, x.status(what), -1);
         }
         due.due("LINES of the latest", x.status(8), 1);
         Checks.revise(x, "", 0);
         due.due("LINES of an empty one", x.status(8), 0);
-        Checks.revise(x, ALL, -1);
+        Checks.revise(x, Scenes.ALL, -1);
         due.due("LINES of a full one", x.status(8), 24);
         x.remark(0, 0, 0, 0, 0, -1);
         x.remark(0, 0, 0, 0, 0, 0);

@@ -2,7 +2,6 @@
 public final class RemarkLimitsTest {
     private static final Checks due = new Checks("RemarkLimitsTest");
     private static final int GONE = -1000 - 10 + 3;
-    private static final String ALL = "a/b/c/d/e/f/g/h/i/j/k/l/m/n/o/p/q/r/s/t/u/v/w/x";
 
     public static void main(String[] args) {
         spans();
@@ -43,19 +42,9 @@ public final class RemarkLimitsTest {
         due.end();
     }
 
-    /** An object with a CHAIN of such REVISIONS, from 0 on, where nothing that is LOST may COME BACK. */
-    private static LineRemarks chain(String... texts) {
-        LineRemarks x = new LineRemarks();
-        x.rule(1, 99);
-        for (int r = 0; r < texts.length; r++) {
-            due.due("revise", Checks.revise(x, texts[r], r - 1), r);
-        }
-        return x;
-    }
-
     /** "its SPAN there: LINES p to q": one LINE, all of them, the first, the last. */
     private static void spans() {
-        LineRemarks x = chain(ALL);
+        LineRemarks x = Scenes.chain(Scenes.ALL);
         int[][] spans = {{0, 0}, {23, 23}, {0, 23}, {0, 1}, {22, 23}, {11, 12}};
         for (int m = 0; m < spans.length; m++) {
             due.due("remark", x.remark(m, 5, 0, spans[m][0], spans[m][1], -1), m);
@@ -67,21 +56,21 @@ public final class RemarkLimitsTest {
         due.due("p 24", x.remark(0, 0, 0, 24, 24, -1), -5);
         due.due("p -1", x.remark(0, 0, 0, -1, 0, -1), -5);
         due.due("q ahead of p", x.remark(0, 0, 0, 23, 22, -1), -5);
-        LineRemarks y = chain("a");
+        LineRemarks y = Scenes.chain("a");
         due.due("the only LINE", y.remark(0, 0, 0, 0, 0, -1), 0);
         due.due("none behind it", y.remark(0, 0, 0, 0, 1, -1), -5);
     }
 
     /** "a (0 to 9)", KINDS 0 to 6. */
     private static void kindsAndA() {
-        LineRemarks x = chain("a");
+        LineRemarks x = Scenes.chain("a");
         for (int a = 0; a <= 9; a++) {
             due.due("a " + a, x.remark(0, a, 0, 0, 0, -1), a);
             due.due("a", x.remarkOf(a, 1), a);
         }
         due.due("a 10", x.remark(0, 10, 0, 0, 0, -1), -6);
         due.due("a -1", x.remark(0, -1, 0, 0, 0, -1), -6);
-        LineRemarks y = chain("a");
+        LineRemarks y = Scenes.chain("a");
         for (int kind = 0; kind <= 6; kind++) {
             due.due("KIND " + kind, y.remark(kind, 0, 0, 0, 0, -1), kind);
             due.due("KIND", y.remarkOf(kind, 0), kind);
@@ -92,7 +81,7 @@ public final class RemarkLimitsTest {
 
     /** "what it ANSWERS: an earlier REMARK, or NONE": not itself, not a later one. */
     private static void answers() {
-        LineRemarks x = chain("a", "b");
+        LineRemarks x = Scenes.chain("a", "b");
         for (int m = 0; m < 16; m++) {
             due.due("itself", x.remark(0, 0, 0, 0, 0, m), -1);
             due.due("a later one", x.remark(0, 0, 0, 0, 0, m + 1), -1);
@@ -106,7 +95,7 @@ public final class RemarkLimitsTest {
 
     /** "REMARKS have numbers, from 0 on, 16 at most". */
     private static void sixteen() {
-        LineRemarks x = chain("a");
+        LineRemarks x = Scenes.chain("a");
         for (int m = 0; m < 16; m++) {
             due.due("how many", x.status(1), m);
             due.due("none of the number yet", x.remarkOf(m, 0), -5);
@@ -128,8 +117,8 @@ public final class RemarkLimitsTest {
 
     /** DEPTH and THREAD, 0 to 15 each: one behind the other, and all under the first. */
     private static void trees() {
-        LineRemarks x = chain("a");
-        LineRemarks y = chain("a");
+        LineRemarks x = Scenes.chain("a");
+        LineRemarks y = Scenes.chain("a");
         for (int m = 0; m < 16; m++) {
             x.remark(0, 0, 0, 0, 0, m - 1);
             y.remark(0, 0, 0, 0, 0, m == 0 ? -1 : 0);
@@ -145,7 +134,7 @@ public final class RemarkLimitsTest {
 
     /** "OPEN: it isn't SETTLED, or any in its THREAD isn't": by the 15th that ANSWERS. */
     private static void openByTheLast() {
-        LineRemarks x = chain("a");
+        LineRemarks x = Scenes.chain("a");
         for (int m = 0; m < 16; m++) {
             x.remark(0, 0, 0, 0, 0, m - 1);
         }
@@ -171,7 +160,7 @@ public final class RemarkLimitsTest {
 
     /** "whether it was (1, 0)"; not SETTLED at first; once more changes nothing. */
     private static void settledTwice() {
-        LineRemarks x = chain("a");
+        LineRemarks x = Scenes.chain("a");
         for (int m = 0; m < 16; m++) {
             x.remark(0, 0, 0, 0, 0, -1);
         }
@@ -192,7 +181,7 @@ public final class RemarkLimitsTest {
 
     /** REMARK: "from the least to the greatest PLACE": one LINE is enough, and any will do. */
     private static void remarkFollows() {
-        LineRemarks x = chain("x/a/b/c/y");
+        LineRemarks x = Scenes.chain("x/a/b/c/y");
         x.remark(0, 0, 0, 1, 3, -1);
         x.remark(0, 0, 0, 0, 4, -1);
         String[] texts = {"x/a/y", "x/k/b/y", "x/c", "x/k/y", "x/a/k/k/k/c/y", "", "k", "a/b/c", "b"};
@@ -211,7 +200,7 @@ public final class RemarkLimitsTest {
 
     /** POINT: LINE p alone, though the SPAN is longer. */
     private static void pointFollows() {
-        LineRemarks x = chain("a/b/c");
+        LineRemarks x = Scenes.chain("a/b/c");
         x.remark(1, 0, 0, 1, 2, -1);
         x.remark(1, 0, 0, 0, 2, -1);
         x.remark(1, 0, 0, 2, 2, -1);
@@ -227,7 +216,7 @@ public final class RemarkLimitsTest {
 
     /** BLOCK: "LOST, if a LINE of the SPAN has no PLACE or the new SPAN is longer". */
     private static void blockFollows() {
-        LineRemarks x = chain("x/a/b/c/y");
+        LineRemarks x = Scenes.chain("x/a/b/c/y");
         x.remark(2, 9, 0, 1, 3, -1);
         x.remark(2, 9, 0, 2, 2, -1);
         x.remark(2, 9, 0, 0, 4, -1);
@@ -246,7 +235,7 @@ public final class RemarkLimitsTest {
 
     /** As long a SPAN as it was isn't longer, though the LINES have another order. */
     private static void blockPermuted() {
-        LineRemarks x = chain("a/b/c/d", "c/d/a/b", "c/d/k/a/b");
+        LineRemarks x = Scenes.chain("a/b/c/d", "c/d/a/b", "c/d/k/a/b");
         x.remark(2, 0, 0, 0, 3, -1);
         x.remark(5, 0, 0, 0, 3, -1);
         x.remark(5, 1, 0, 0, 3, -1);
@@ -262,7 +251,7 @@ public final class RemarkLimitsTest {
     private static void looseTenths() {
         String ten = "a/b/c/d/e/f/g/h/i/j/";
         for (int n = 0; n <= 10; n++) {
-            LineRemarks x = chain("x/" + ten + "y", "x/" + ten.substring(0, 2 * n) + "y");
+            LineRemarks x = Scenes.chain("x/" + ten + "y", "x/" + ten.substring(0, 2 * n) + "y");
             for (int a = 0; a <= 9; a++) {
                 x.remark(4, a, 0, 1, 10, -1);
                 due.due(n + " of 10, a " + a, Checks.put(x, a, 1), n == 0 || n < a ? GONE : 1000 + n * 10 + 1);
@@ -275,7 +264,7 @@ public final class RemarkLimitsTest {
         int[] spans = {GONE, 1011, 1021, 1031};
         int[] greatest = {-1, 3, 6, 9};
         for (int n = 0; n <= 3; n++) {
-            LineRemarks x = chain("x/a/b/c/y", texts[n]);
+            LineRemarks x = Scenes.chain("x/a/b/c/y", texts[n]);
             for (int a = 0; a <= 9; a++) {
                 x.remark(4, a, 0, 1, 3, -1);
                 due.due(n + " of 3, a " + a, Checks.put(x, a, 1), a <= greatest[n] ? spans[n] : GONE);
@@ -286,7 +275,7 @@ public final class RemarkLimitsTest {
     /** WALL: "as BLOCK, but the new SPAN may be longer by a". */
     private static void wallLonger() {
         for (int longer = 0; longer <= 10; longer++) {
-            LineRemarks x = chain("x/a/b/y", "x/a/" + "k/".repeat(longer) + "b/y");
+            LineRemarks x = Scenes.chain("x/a/b/y", "x/a/" + "k/".repeat(longer) + "b/y");
             for (int a = 0; a <= 9; a++) {
                 x.remark(5, a, 0, 1, 2, -1);
                 due.due("longer by " + longer + ", a " + a, Checks.put(x, a, 1),
@@ -297,14 +286,14 @@ public final class RemarkLimitsTest {
             x.remark(0, 0, 0, 1, 2, -1);
             due.due("REMARK", Checks.put(x, 11, 1), 1000 + (longer + 2) * 10 + 1);
         }
-        LineRemarks x = chain("x/a/b/c/y", "x/b/c/y");
+        LineRemarks x = Scenes.chain("x/a/b/c/y", "x/b/c/y");
         x.remark(5, 9, 0, 1, 3, -1);
         due.due("a LINE has no PLACE", Checks.put(x, 0, 1), GONE);
     }
 
     /** CARET: "(p - 1, then p - 2, ..)": to LINE 0, and none behind p. */
     private static void caretFollows() {
-        LineRemarks x = chain("a/b/c/d/e");
+        LineRemarks x = Scenes.chain("a/b/c/d/e");
         x.remark(3, 0, 0, 4, 4, -1);
         x.remark(3, 0, 0, 0, 4, -1);
         x.remark(3, 0, 0, 2, 4, -1);
@@ -322,10 +311,10 @@ public final class RemarkLimitsTest {
 
     /** The next LINE ahead by its number on A, wherever its PLACE is on B. */
     private static void caretByMoved() {
-        LineRemarks x = chain("m/n/o/a/b/c", "a/k/m/n/o/b");
+        LineRemarks x = Scenes.chain("m/n/o/a/b/c", "a/k/m/n/o/b");
         x.remark(3, 0, 0, 5, 5, -1);
         due.due("b stays, though m, n, o moved", Checks.put(x, 0, 1), 5051);
-        LineRemarks y = chain("b/c/p/q/r/s", "p/q/r/k/b/c");
+        LineRemarks y = Scenes.chain("b/c/p/q/r/s", "p/q/r/k/b/c");
         y.remark(3, 0, 0, 1, 1, -1);
         y.remark(3, 0, 0, 5, 5, -1);
         due.due("c MOVED", Checks.put(y, 0, 1), 5051);
@@ -336,7 +325,7 @@ public final class RemarkLimitsTest {
 
     /** TAIL: "what a CARET comes to, but q is the last LINE of B". */
     private static void tailFollows() {
-        LineRemarks x = chain("a/b/c");
+        LineRemarks x = Scenes.chain("a/b/c");
         x.remark(6, 0, 0, 1, 1, -1);
         x.remark(6, 0, 0, 2, 2, -1);
         String[] texts = {"a/b/c", "b", "b" + "/k".repeat(23), "k/k/b", "a/k", "c", "k", ""};
@@ -352,7 +341,7 @@ public final class RemarkLimitsTest {
 
     /** "step by step": each KIND from the SPAN that it has on the FORMER, not from that as it is made. */
     private static void stepByStep() {
-        LineRemarks x = chain("x/a/b/y", "x/a/k/b/y", "x/k/y", "k/y", "x/a/b/y");
+        LineRemarks x = Scenes.chain("x/a/b/y", "x/a/k/b/y", "x/k/y", "k/y", "x/a/b/y");
         for (int kind = 0; kind < 7; kind++) {
             x.remark(kind, 1, 0, 1, 2, -1);
         }
@@ -379,7 +368,7 @@ public final class RemarkLimitsTest {
 
     /** LOOSE: "how many it has" on the FORMER, where it may have grown. */
     private static void looseAsItIsNow() {
-        LineRemarks x = chain("a/b", "a/k/k/b", "a/b");
+        LineRemarks x = Scenes.chain("a/b", "a/k/k/b", "a/b");
         for (int a = 0; a <= 9; a++) {
             x.remark(4, a, 0, 0, 1, -1);
             due.due("all of 2, a " + a, Checks.put(x, a, 1), 31);
@@ -389,7 +378,7 @@ public final class RemarkLimitsTest {
 
     /** WALL: longer by a at each step. */
     private static void wallStepByStep() {
-        LineRemarks x = chain("a/b", "a/k/b", "a/k/l/b", "a/k/l/m/n/b", "a/k/l/m/b");
+        LineRemarks x = Scenes.chain("a/b", "a/k/b", "a/k/l/b", "a/k/l/m/n/b", "a/k/l/m/b");
         x.remark(5, 1, 0, 0, 1, -1);
         x.remark(5, 2, 0, 0, 1, -1);
         x.remark(5, 0, 0, 0, 1, -1);
@@ -404,7 +393,7 @@ public final class RemarkLimitsTest {
 
     /** "if it wasn't LOST on the FORMER, it FOLLOWS": else it doesn't, whatever LINES are alike. */
     private static void lostStaysLost() {
-        LineRemarks x = chain("x/a/y", "x/y", "x/a/y", "x/a/y");
+        LineRemarks x = Scenes.chain("x/a/y", "x/y", "x/a/y", "x/a/y");
         x.remark(0, 0, 0, 1, 1, -1);
         due.due("LOST", Checks.put(x, 0, 1), GONE);
         due.due("LOST yet", Checks.put(x, 0, 2), GONE);
@@ -418,7 +407,7 @@ public final class RemarkLimitsTest {
 
     /** "of its latest SPAN": as long as that was, grown or shrunk. */
     private static void latestSpan() {
-        LineRemarks x = chain("a/b", "a/k/b", "", "a/k/b/a/b");
+        LineRemarks x = Scenes.chain("a/b", "a/k/b", "", "a/k/b/a/b");
         x.remark(0, 0, 0, 0, 1, -1);
         int[] scores = {11, 0, 5, -5};
         for (int s = 0; s < 4; s++) {
@@ -426,7 +415,7 @@ public final class RemarkLimitsTest {
         }
         x.rule(1, 11);
         due.due("as long a SPAN", Checks.put(x, 0, 3), 22);
-        LineRemarks y = chain("a/b/c", "b", "", "a/b/c");
+        LineRemarks y = Scenes.chain("a/b/c", "b", "", "a/b/c");
         y.remark(0, 0, 0, 0, 2, -1);
         int[] one = {2, 3, 2, -5};
         for (int s = 0; s < 4; s++) {
@@ -443,9 +432,9 @@ public final class RemarkLimitsTest {
         int[][] alone = {{7}, {2, 5}, {5, 2}, {2, 3, 2}, {4}, {5, 5}};
         int[][] between = {{3}, {0, 3}, {3, 0}, {0, 3, 0}, {0}, {3, 3}};
         for (int k = 0; k < texts.length; k++) {
-            LineRemarks x = chain("a", "", texts[k]);
+            LineRemarks x = Scenes.chain("a", "", texts[k]);
             x.remark(0, 0, 0, 0, 0, -1);
-            LineRemarks y = chain("x/a/y", "", texts[k]);
+            LineRemarks y = Scenes.chain("x/a/y", "", texts[k]);
             y.remark(0, 0, 0, 1, 1, -1);
             for (int s = 0; s < alone[k].length; s++) {
                 due.due("alone, on " + texts[k] + " at " + s, x.score(0, 2, s), alone[k][s]);
@@ -453,7 +442,7 @@ public final class RemarkLimitsTest {
             }
             due.due("no place", x.score(0, 2, alone[k].length), -5);
         }
-        LineRemarks x = chain("x/a/y", "", "x/a", "", "a/y");
+        LineRemarks x = Scenes.chain("x/a/y", "", "x/a", "", "a/y");
         x.remark(0, 0, 0, 1, 1, -1);
         due.due("x ahead", x.score(0, 2, 1), 5);
         due.due("y behind", x.score(0, 4, 0), 5);
@@ -462,7 +451,7 @@ public final class RemarkLimitsTest {
 
     /** "If the greatest SCORE is NEED at least (0 to 99)": each NEED for a SCORE of 7. */
     private static void needBounds() {
-        LineRemarks x = chain("x/p/y", "", "x/p/y");
+        LineRemarks x = Scenes.chain("x/p/y", "", "x/p/y");
         x.remark(0, 0, 0, 1, 1, -1);
         for (int need = 0; need <= 99; need++) {
             x.rule(1, need);
@@ -481,14 +470,14 @@ public final class RemarkLimitsTest {
 
     /** NEED 0: a SCORE of 0 is enough, if there is a place at all. */
     private static void needOfNothing() {
-        LineRemarks x = chain("x/p/y", "k", "");
+        LineRemarks x = Scenes.chain("x/p/y", "k", "");
         x.remark(0, 0, 0, 1, 1, -1);
         x.rule(1, 0);
         due.due("one place of SCORE 0", Checks.put(x, 0, 1), 2);
         due.due("no place", Checks.put(x, 0, 2), GONE);
         x.rule(1, 1);
         due.due("NEED 1", Checks.put(x, 0, 1), GONE);
-        LineRemarks y = chain("x/p/y", "", "k/l");
+        LineRemarks y = Scenes.chain("x/p/y", "", "k/l");
         y.remark(0, 0, 0, 1, 1, -1);
         y.rule(1, 0);
         due.due("two places of SCORE 0, MARGIN 1", Checks.put(y, 0, 2), GONE);
@@ -498,7 +487,7 @@ public final class RemarkLimitsTest {
 
     /** "each other place's is less by MARGIN at least (0 to 20)": each MARGIN for 7 and 0, and for 7 and 5. */
     private static void marginBounds() {
-        LineRemarks x = chain("x/p/y", "", "x/p/y");
+        LineRemarks x = Scenes.chain("x/p/y", "", "x/p/y");
         x.rule(1, 6);
         x.remark(0, 0, 0, 1, 1, -1);
         for (int margin = 0; margin <= 20; margin++) {
@@ -506,8 +495,8 @@ public final class RemarkLimitsTest {
             due.due("7 and 0, MARGIN " + margin, x.put(0, 2, 2), margin <= 7 ? 2 : 3);
             due.due("LEAST NEED", x.leastNeed(0, 2), margin <= 7 ? 7 : -1);
         }
-        LineRemarks y = chain("x/p/y", "", "x/p/y/x/p");
-        LineRemarks z = chain("x/p/y", "", "x/p/k/x/p/y");
+        LineRemarks y = Scenes.chain("x/p/y", "", "x/p/y/x/p");
+        LineRemarks z = Scenes.chain("x/p/y", "", "x/p/k/x/p/y");
         y.rule(1, 6);
         z.rule(1, 6);
         y.remark(0, 0, 0, 1, 1, -1);
@@ -523,8 +512,8 @@ public final class RemarkLimitsTest {
     /** The greatest MARGIN: 22 and 2 keep it, 22 and 3 don't. */
     private static void marginTwenty() {
         String six = "x/a/b/c/d/e/f/y";
-        LineRemarks x = chain(six, "", six + "/x/k/k/k/k/k/k");
-        LineRemarks y = chain(six, "", six + "/k/a/k/k/k/k/k");
+        LineRemarks x = Scenes.chain(six, "", six + "/x/k/k/k/k/k/k");
+        LineRemarks y = Scenes.chain(six, "", six + "/k/a/k/k/k/k/k");
         for (LineRemarks z : new LineRemarks[] {x, y}) {
             z.rule(1, 22);
             z.remark(0, 0, 0, 1, 6, -1);
@@ -548,7 +537,7 @@ public final class RemarkLimitsTest {
         String[] texts = {"p/k/p/k/p", "k/p/k/p", "k/k/p/p"};
         int[] first = {2, 1012, 2022};
         for (int k = 0; k < texts.length; k++) {
-            LineRemarks x = chain("x/p/y", "", texts[k]);
+            LineRemarks x = Scenes.chain("x/p/y", "", texts[k]);
             x.remark(0, 0, 0, 1, 1, -1);
             x.rule(1, 3);
             due.due("MARGIN 1 on " + texts[k], Checks.put(x, 0, 2), GONE);
@@ -559,7 +548,7 @@ public final class RemarkLimitsTest {
             x.rule(1, 4);
             due.due("NEED 4 on " + texts[k], Checks.put(x, 0, 2), GONE);
         }
-        LineRemarks x = chain("x/p/y", "", "k/l/k");
+        LineRemarks x = Scenes.chain("x/p/y", "", "k/l/k");
         x.remark(0, 0, 0, 1, 1, -1);
         x.rule(1, 0);
         x.rule(2, 0);
@@ -569,7 +558,7 @@ public final class RemarkLimitsTest {
 
     /** Where there is one place alone, no MARGIN can be broken. */
     private static void onePlace() {
-        LineRemarks x = chain("x/p/y", "", "p", "", "k");
+        LineRemarks x = Scenes.chain("x/p/y", "", "p", "", "k");
         x.remark(0, 0, 0, 1, 1, -1);
         x.rule(2, 20);
         x.rule(1, 3);
@@ -584,7 +573,7 @@ public final class RemarkLimitsTest {
 
     /** 24 LINES, nothing ahead and nothing behind: 76. */
     private static void greatestScore() {
-        LineRemarks x = chain(ALL, "", ALL);
+        LineRemarks x = Scenes.chain(Scenes.ALL, "", Scenes.ALL);
         x.remark(0, 0, 0, 0, 23, -1);
         x.remark(2, 0, 0, 0, 22, -1);
         due.due("SCORE", x.score(0, 2, 0), 76);
@@ -604,19 +593,19 @@ public final class RemarkLimitsTest {
 
     /** "a place s (0 to how many LINES B has less how many the SPAN had)": the first and the last of them. */
     private static void backAtEnds() {
-        LineRemarks x = chain("x/a/b/y", "", "a/b/k/k");
+        LineRemarks x = Scenes.chain("x/a/b/y", "", "a/b/k/k");
         x.rule(1, 6);
         x.remark(0, 0, 0, 1, 2, -1);
         due.due("place 0", Checks.put(x, 0, 2), 12);
-        LineRemarks y = chain("x/a/b/y", "", "k/k/a/b");
+        LineRemarks y = Scenes.chain("x/a/b/y", "", "k/k/a/b");
         y.rule(1, 6);
         y.remark(0, 0, 0, 1, 2, -1);
         due.due("the last place", Checks.put(y, 0, 2), 2032);
-        LineRemarks z = chain("x/a/b/y", "", "a/b");
+        LineRemarks z = Scenes.chain("x/a/b/y", "", "a/b");
         z.rule(1, 6);
         z.remark(0, 0, 0, 1, 2, -1);
         due.due("the only place", Checks.put(z, 0, 2), 12);
-        LineRemarks w = chain("x/a/b/y", "", "a", "a/b");
+        LineRemarks w = Scenes.chain("x/a/b/y", "", "a", "a/b");
         w.rule(1, 0);
         w.rule(2, 0);
         w.remark(0, 0, 0, 1, 2, -1);
@@ -625,7 +614,7 @@ public final class RemarkLimitsTest {
     }
 
     private static void scorePlaces() {
-        LineRemarks x = chain(ALL, "", ALL, "", "a");
+        LineRemarks x = Scenes.chain(Scenes.ALL, "", Scenes.ALL, "", "a");
         x.remark(0, 0, 0, 5, 5, -1);
         for (int s = 0; s < 24; s++) {
             due.due("place " + s, x.score(0, 2, s), s == 5 ? 7 : 0);
@@ -639,7 +628,7 @@ public final class RemarkLimitsTest {
 
     /** CONTEXT on t is that of the latest REVISION ahead of t, though it isn't LOST on t. */
     private static void scoreWhereItFollows() {
-        LineRemarks x = chain("x/a/y", "k/a/l", "x/a/y");
+        LineRemarks x = Scenes.chain("x/a/y", "k/a/l", "x/a/y");
         x.remark(0, 0, 0, 1, 1, -1);
         due.due("it FOLLOWS", Checks.put(x, 0, 2), 1011);
         due.due("CONTEXT of 0 on 1", x.score(0, 1, 1), 3);
@@ -649,7 +638,7 @@ public final class RemarkLimitsTest {
     }
 
     private static void fittingBounds() {
-        LineRemarks x = chain("a/b/c/d", "k", "", "a/b/c/d");
+        LineRemarks x = Scenes.chain("a/b/c/d", "k", "", "a/b/c/d");
         for (int kind = 0; kind < 7; kind++) {
             x.remark(kind, kind, 0, 1, 2, -1);
             due.due("all where it is MADE, though of KIND " + kind, x.fitting(kind, 0), 127);
@@ -670,7 +659,7 @@ public final class RemarkLimitsTest {
         for (int r = 0; r < 16; r++) {
             texts[r] = "k/".repeat(r) + "a/b/c";
         }
-        LineRemarks x = chain(texts);
+        LineRemarks x = Scenes.chain(texts);
         x.remark(2, 0, 0, 0, 1, -1);
         x.remark(6, 0, 0, 1, 1, -1);
         for (int r = 0; r < 16; r++) {

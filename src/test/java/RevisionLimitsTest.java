@@ -408,7 +408,7 @@ public final class RevisionLimitsTest {
             for (int r = 0; r < texts.length; r++) {
                 StringBuilder text = new StringBuilder();
                 for (int i = 0; i < 4 + r % 5; i++) {
-                    seed = next(seed);
+                    seed = Scenes.next(seed);
                     text.append(i == 0 ? "" : "/").append((char) ('a' + (seed >>> 16) % (2 + round % 4)));
                 }
                 Checks.revise(x, text.toString(), -1);
@@ -421,10 +421,6 @@ public final class RevisionLimitsTest {
                 }
             }
         }
-    }
-
-    private static int next(int seed) {
-        return seed * 1103515245 + 12345;
     }
 
     /** "n at least RUN (1 to 9; 2 at first)": of n LINES for each n and RUN. */

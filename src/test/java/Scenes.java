@@ -10,7 +10,20 @@ final class Scenes {
         LineRemarks make();
     }
 
+    /** 24 LINES, no two alike. */
+    static final String ALL = "a/b/c/d/e/f/g/h/i/j/k/l/m/n/o/p/q/r/s/t/u/v/w/x";
+
     private Scenes() { }
+
+    /** An object with a CHAIN of such REVISIONS, from 0 on, where nothing that is LOST may COME BACK. */
+    static LineRemarks chain(String... texts) {
+        LineRemarks x = new LineRemarks();
+        x.rule(1, 99);
+        for (int r = 0; r < texts.length; r++) {
+            Checks.revise(x, texts[r], r - 1);
+        }
+        return x;
+    }
 
     static LineRemarks anew() {
         return new LineRemarks();
@@ -72,6 +85,11 @@ final class Scenes {
         x.show(3, 15);
         x.act(15, 2, 1);
         return x;
+    }
+
+    /** The SEED after one DRAW more. */
+    static int next(int seed) {
+        return seed * 1103515245 + 12345;
     }
 
     /** All that can be asked of an object but REFUSALS and the FAULT, by calls that refuse nothing. */

@@ -28,7 +28,7 @@ public final class WholeTest {
     private static int after(int seed, int n) {
         int s = seed;
         for (int k = 0; k < n; k++) {
-            s = s * 1103515245 + 12345;
+            s = Scenes.next(s);
         }
         return s;
     }
