@@ -1534,9 +1534,12 @@ public final class LineRemarks {
                 return 0;
             }
             began(body);
+            return answerOf(body, x, depth + 1);
+        }
+
+        private int answerOf(int body, int x, int next) {
             // The tens of a body tell its KIND.
             int up = aboveOf(body / 10 - 1);
-            int next = depth + 1;
             switch (body) {
                 case 10:
                     return x + m;

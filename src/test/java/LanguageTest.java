@@ -61,8 +61,16 @@ public final class LanguageTest {
                 indent = head.group(1);
             } else if (begun >= 0 && lines[i].equals(indent + "}")) {
                 due.that("11: some sixty lines: " + lines[begun].trim(), i - begun <= 70);
+                alone(lines[begun], String.join("\n", List.of(lines).subList(begun + 1, i)));
                 begun = -1;
             }
         }
+    }
+
+    /** Rule 8: a method that calls itself is a private static one; others call one another. */
+    private static void alone(String head, String body) {
+        Matcher name = Pattern.compile("(\\w+)\\(").matcher(head);
+        boolean calls = name.find() && Pattern.compile("(?<![.\\w])(?<!new )" + name.group(1) + "\\(").matcher(body).find();
+        due.that("8: calls itself: " + head.trim(), !calls || head.contains("private static "));
     }
 }

@@ -432,6 +432,9 @@ public final class OutcomeLimitsTest {
         due.due("how many ANSWER 0, and so on", x.remarkOf(0, 8), 8);
         due.due("PUT on the new one", x.who(3, 0) & 0x180, 0x180);
         due.due("not on the old one", x.who(2, 0) & 0x180, 0);
+        for (int m : new int[] {1, 5, 7}) {
+            due.due("MOVES by its own number, the same a", x.act(m, 0, 100), 100 + m + 2);
+        }
     }
 
     /** "n (1 to 15)"; "more REVISIONS than may be". */

@@ -28,6 +28,7 @@ public final class RevisionLimitsTest {
         inNoPair();
         takenInB();
         runsAtEnds();
+        runsBehindTheShorter();
         stepsThrough();
         throughEnds();
         origins();
@@ -550,6 +551,24 @@ public final class RevisionLimitsTest {
         y.rule(0, 1);
         places(y, "both ends", 4, 1, 2, 3, 0);
         due.due("MOVED", y.matched(0, 1, 1), 2);
+    }
+
+    /** Runs that begin in the longer one behind where the shorter one ends. */
+    private static void runsBehindTheShorter() {
+        LineRemarks x = new LineRemarks();
+        taken(x, "a/b/c/k/k/k/k/m/n");
+        taken(x, "m/n/a/b/c");
+        places(x, "LINE 7 of A, of 5 of B", 2, 3, 4, -1, -1, -1, -1, 0, 1);
+        due.due("MOVED", x.matched(0, 1, 1), 2);
+        due.due("LINE 7 of B, of 5 of A", x.place(1, 0, 0) * 10 + x.place(1, 0, 1), 78);
+        due.due("MOVED, the other way", x.matched(1, 0, 1), 2);
+        LineRemarks y = new LineRemarks();
+        y.rule(0, 1);
+        taken(y, "a/b" + "/k".repeat(21) + "/m");
+        taken(y, "m/a/b");
+        due.due("LINE 23 of A, of 3 of B", y.place(0, 1, 23), 0);
+        due.due("LINE 23 of B, of 3 of A", y.place(1, 0, 0), 23);
+        due.due("MOVED", y.matched(0, 1, 1) * 10 + y.matched(1, 0, 1), 11);
     }
 
     /** THROUGH and ORIGIN along a CHAIN of 16. */
